@@ -339,7 +339,7 @@ public final class HangGraph {
             openCount++;
         }
 
-        /** The next hit formula that this one hangs on and that the walk has not come to, or null. */
+        /** The next hit formula below this one that the walk has not come to, or null. */
         private Formula nextBelow(Formula here) {
             for (int i = here.looked; i < hitCount; i++) {
                 Formula other = hits[i];

@@ -260,6 +260,9 @@ public final class PromiseTests {
         g.touch(12, 12);
         g.touch(19, 19);
         due(3, g::spread);
+        g.touch(0, 0);
+        g.touch(0, 19);
+        due(1, g::spread);
 
         HangGraph later = new HangGraph();
         later.touch(7, 7);
