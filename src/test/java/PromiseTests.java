@@ -1,19 +1,6 @@
-import java.util.NoSuchElementException;
-
 /** For each promise of the document: ordinary inputs, the edges it names, and wrong inputs. */
-public final class PromiseTests {
-    private interface Call {
-        int answer();
-    }
-
-    private static final Class<?> BAD_ARGUMENT = IllegalArgumentException.class;
-    private static final Class<?> NO_FORMULA = NoSuchElementException.class;
-    private static final Class<?> OVERLAP = IllegalStateException.class;
-    private static final Class<?> TOO_MANY = IndexOutOfBoundsException.class;
+public final class PromiseTests extends Checks {
     private static final int[] OFF_GRID = {-1, 20, 21, 400, Integer.MIN_VALUE, Integer.MAX_VALUE};
-
-    private static int wrong = 0;
-    private static String part = "";
 
     public static void main(String[] args) {
         newObject();
@@ -41,16 +28,13 @@ public final class PromiseTests {
         orderOfExceptions();
         throwingChangesNothing();
         objectsAreApart();
-        System.out.println(wrong == 0 ? "all promises hold" : wrong + " answers are not as due");
-        if (wrong != 0) {
-            System.exit(1);
-        }
+        end("all promises hold");
     }
 
     // Promise 1
 
     private static void newObject() {
-        part = "1 new object";
+        about("1 new object");
         HangGraph g = new HangGraph();
         for (int cell = 0; cell < 400; cell++) {
             int r = cell / 20;
@@ -68,7 +52,7 @@ public final class PromiseTests {
     // Promise 2
 
     private static void put() {
-        part = "2 put";
+        about("2 put");
         HangGraph g = new HangGraph();
         due(1, () -> g.put(0, 0, 1, 1));
         due(2, () -> g.put(0, 1, 1, 19));
@@ -96,7 +80,7 @@ public final class PromiseTests {
     }
 
     private static void putWrong() {
-        part = "2 put, wrong";
+        about("2 put, wrong");
         HangGraph g = new HangGraph();
         for (int off : OFF_GRID) {
             thrown(BAD_ARGUMENT, () -> g.put(off, 0, 1, 1));
@@ -117,7 +101,7 @@ public final class PromiseTests {
     }
 
     private static void putOverlap() {
-        part = "2 put, overlap";
+        about("2 put, overlap");
         HangGraph g = new HangGraph();
         g.put(5, 5, 3, 4);
         thrown(OVERLAP, () -> g.put(5, 5, 3, 4));
@@ -138,7 +122,7 @@ public final class PromiseTests {
     // Promise 3
 
     private static void out() {
-        part = "3 out";
+        about("3 out");
         HangGraph g = new HangGraph();
         g.put(2, 3, 2, 2);
         g.put(2, 5, 1, 1);
@@ -164,7 +148,7 @@ public final class PromiseTests {
     }
 
     private static void outWrong() {
-        part = "3 out, wrong";
+        about("3 out, wrong");
         HangGraph g = new HangGraph();
         g.put(0, 0, 2, 2);
         for (int off : OFF_GRID) {
@@ -181,7 +165,7 @@ public final class PromiseTests {
     // Promise 4
 
     private static void speak() {
-        part = "4 speak";
+        about("4 speak");
         HangGraph g = new HangGraph();
         g.put(0, 0, 1, 1);
         g.put(0, 1, 1, 1);
@@ -205,7 +189,7 @@ public final class PromiseTests {
     }
 
     private static void speakWrong() {
-        part = "4 speak, wrong";
+        about("4 speak, wrong");
         HangGraph g = new HangGraph();
         g.put(0, 0, 2, 2);
         for (int off : OFF_GRID) {
@@ -229,7 +213,7 @@ public final class PromiseTests {
     }
 
     private static void speakTooMany() {
-        part = "4 speak, too many";
+        about("4 speak, too many");
         HangGraph g = new HangGraph();
         g.put(0, 0, 1, 1);
         g.put(1, 0, 1, 1);
@@ -250,7 +234,7 @@ public final class PromiseTests {
     // Promise 5
 
     private static void touch() {
-        part = "5 touch";
+        about("5 touch");
         HangGraph g = new HangGraph();
         g.put(0, 0, 1, 1);
         g.put(19, 19, 1, 1);
@@ -279,7 +263,7 @@ public final class PromiseTests {
     }
 
     private static void touchWrong() {
-        part = "5 touch, wrong";
+        about("5 touch, wrong");
         HangGraph g = new HangGraph();
         g.put(0, 0, 20, 20);
         for (int off : OFF_GRID) {
@@ -292,7 +276,7 @@ public final class PromiseTests {
     // Promise 6
 
     private static void spreadHit() {
-        part = "6 spread, hit";
+        about("6 spread, hit");
         HangGraph g = new HangGraph();
         g.put(0, 0, 2, 2);
         g.put(4, 4, 1, 1);
@@ -320,7 +304,7 @@ public final class PromiseTests {
     }
 
     private static void spreadClearsDirty() {
-        part = "6 spread, no cell dirty afterwards";
+        about("6 spread, no cell dirty afterwards");
         HangGraph g = new HangGraph();
         g.put(3, 3, 1, 1);
         g.touch(3, 3);
@@ -335,7 +319,7 @@ public final class PromiseTests {
 
     /** Two groups that hang on themselves, one formula between them, one below and one above. */
     private static void spreadRound() {
-        part = "6 spread, round";
+        about("6 spread, round");
         HangGraph g = new HangGraph();
         for (int c = 0; c < 8; c++) {
             g.put(0, c, 1, 1);
@@ -367,7 +351,7 @@ public final class PromiseTests {
     }
 
     private static void spreadRank() {
-        part = "6 spread, rank";
+        about("6 spread, rank");
         HangGraph g = new HangGraph();
         for (int c = 0; c < 6; c++) {
             g.put(0, c, 1, 1);
@@ -391,7 +375,7 @@ public final class PromiseTests {
     }
 
     private static void spreadLongChain() {
-        part = "6 spread, long chain";
+        about("6 spread, long chain");
         for (int turn = 0; turn < 2; turn++) {
             boolean up = turn == 0;
             HangGraph g = new HangGraph();
@@ -418,7 +402,7 @@ public final class PromiseTests {
     }
 
     private static void spreadAllRound() {
-        part = "6 spread, full grid";
+        about("6 spread, full grid");
         HangGraph g = new HangGraph();
         for (int i = 0; i < 400; i++) {
             g.put(i / 20, i % 20, 1, 1);
@@ -438,7 +422,7 @@ public final class PromiseTests {
     // Promise 7
 
     private static void told() {
-        part = "7 told";
+        about("7 told");
         HangGraph g = new HangGraph();
         g.put(0, 0, 2, 2);
         for (int what = 0; what <= 2; what++) {
@@ -457,7 +441,7 @@ public final class PromiseTests {
     }
 
     private static void toldStays() {
-        part = "7 told, till the next spread";
+        about("7 told, till the next spread");
         HangGraph g = new HangGraph();
         for (int c = 0; c < 4; c++) {
             g.put(0, c, 1, 1);
@@ -494,7 +478,7 @@ public final class PromiseTests {
     }
 
     private static void toldWrong() {
-        part = "7 told, wrong";
+        about("7 told, wrong");
         HangGraph g = new HangGraph();
         g.put(0, 0, 2, 2);
         for (int off : OFF_GRID) {
@@ -513,7 +497,7 @@ public final class PromiseTests {
     // Promise 8
 
     private static void owner() {
-        part = "8 owner";
+        about("8 owner");
         HangGraph g = new HangGraph();
         g.put(3, 4, 2, 5);
         for (int cell = 0; cell < 400; cell++) {
@@ -529,7 +513,7 @@ public final class PromiseTests {
     }
 
     private static void ownerWrong() {
-        part = "8 owner, wrong";
+        about("8 owner, wrong");
         HangGraph g = new HangGraph();
         for (int off : OFF_GRID) {
             thrown(BAD_ARGUMENT, () -> g.owner(off, 0));
@@ -540,7 +524,7 @@ public final class PromiseTests {
     // Terms
 
     private static void orderOfExceptions() {
-        part = "order of exceptions";
+        about("order of exceptions");
         HangGraph g = new HangGraph();
         g.put(0, 0, 2, 2);
         thrown(BAD_ARGUMENT, () -> g.put(0, 0, 0, 1));
@@ -558,7 +542,7 @@ public final class PromiseTests {
     }
 
     private static void throwingChangesNothing() {
-        part = "a call that throws changes nothing";
+        about("a call that throws changes nothing");
         HangGraph g = new HangGraph();
         g.put(0, 0, 2, 2);
         g.put(9, 9, 1, 1);
@@ -592,7 +576,7 @@ public final class PromiseTests {
     }
 
     private static void objectsAreApart() {
-        part = "two objects";
+        about("two objects");
         HangGraph one = new HangGraph();
         HangGraph two = new HangGraph();
         one.put(0, 0, 1, 1);
@@ -604,48 +588,10 @@ public final class PromiseTests {
         due(0, () -> two.told(0, 0, 0));
     }
 
-    private static int touched(HangGraph g, int r, int c) {
-        g.touch(r, c);
-        return 0;
-    }
-
     private static void tellRow(HangGraph g, int what, int[] want) {
         for (int c = 0; c < want.length; c++) {
             int column = c;
             due(want[column], () -> g.told(0, column, what));
         }
-    }
-
-    private static void due(int want, Call call) {
-        try {
-            int got = call.answer();
-            if (got != want) {
-                report("answered " + got + ", due is " + want);
-            }
-        } catch (RuntimeException e) {
-            report("threw " + e + ", due is " + want);
-        }
-    }
-
-    private static void thrown(Class<?> want, Call call) {
-        try {
-            report("answered " + call.answer() + ", due is " + want.getName());
-        } catch (RuntimeException e) {
-            if (e.getClass() != want) {
-                report("threw " + e + ", due is " + want.getName());
-            }
-        }
-    }
-
-    private static void report(String text) {
-        wrong++;
-        String line = "?";
-        for (StackTraceElement frame : new Throwable().getStackTrace()) {
-            if (!frame.getMethodName().matches("report|due|thrown|tellRow")) {
-                line = String.valueOf(frame.getLineNumber());
-                break;
-            }
-        }
-        System.out.println(part + ", line " + line + ": " + text);
     }
 }
