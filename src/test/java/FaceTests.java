@@ -47,7 +47,8 @@ public final class FaceTests {
         }
     }
 
-    private static String signature(Method method) {
+    /** Also for ReadmeTests, whose table of calls has the same form. */
+    static String signature(Method method) {
         StringBuilder text = new StringBuilder();
         text.append(method.getReturnType().getSimpleName()).append(' ').append(method.getName());
         text.append(names(method.getParameterTypes()).replace('[', '(').replace(']', ')'));
